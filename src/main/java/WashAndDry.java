@@ -1196,7 +1196,10 @@ public final class WashAndDry {
         }
 
         private void note(int place, int moment, int minute) {
-            Rows.lay(minutes, place * MOMENTS + moment, minute);
+            int i = place * MOMENTS + moment;
+            if (i >= 0 && i < minutes.length) {
+                minutes[i] = minute;
+            }
         }
 
         private void wash(int place, int thing) {

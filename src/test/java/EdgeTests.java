@@ -423,6 +423,8 @@ public final class EdgeTests {
         WashAndDry early = with("t29030100;t00030800;o01;s0=3;");
         due("washed a minute ahead: when(1, 2)", early.when(1, 2), 19);
         due("he waits: waits(0)", early.waits(0), 1);
+        // At 19 the first leaves, but the second drips till 21.
+        due("one leaves at 19, one stays: when(2, 2)", with("t29010100;t25020100;t00020301;o012;s0=3;").when(2, 2), 21);
         WashAndDry taken = with("t00030101;t00030101;o01;s0=3;");
         due("taken as it is down: when(1, 2)", taken.when(1, 2), 2);
         due("waits(0)", taken.waits(0), 0);
@@ -607,6 +609,8 @@ public final class EdgeTests {
         due("kind 1 is ahead of kind 2", told("s9=99;t6010"), -1011);
         due("a number out of range", told("s0=12;s0=13;"), -2006);
         due("no such SETTING", told("o;s5=1;"), -2002);
+        due("no such SETTING, 0", told("s5=0;"), -2000);
+        due("no such SETTING, 0", told("s9=0;"), -2000);
         due("no such THING", told(QUICK + "o1;"), -2010);
         due("no such THING yet", told("o0;" + QUICK), -2000);
         due("one that has come", told(QUICK + "o0;"), 2);
@@ -739,6 +743,7 @@ public final class EdgeTests {
         due("the last of all orders: soonest(0)", with(falling).soonest(0), 23);
         // All glasses ahead of all pans: -9 can never be.
         due("pans and glasses: soonest(1)", with(PAN.repeat(3) + GLASS.repeat(3)).soonest(1), 210543);
+        due("the ROW is none of it: soonest(1)", row(with("t00010201;t00010301;"), 0, 9).soonest(1), 10);
         WashAndDry x = with("t00911010;t00911010;o01;n1;s1=0;");
         due("no NEW places: soonest(0)", x.soonest(0), 31);
         due("with them it were sooner: through()", x.through(), 30);
@@ -812,6 +817,8 @@ public final class EdgeTests {
         due("but ahead of the PAN: where(1)", with(PAN + "t10010120;o0;").where(1), 0);
         // At place 0 or 1 the new water goes on to place 2, with the GLASS: 23 each; behind it 29.
         due("NEW places from there on: where(2)", with(PAN + "t10010109;t00010208;o01;n1;s1=9;").where(2), 0);
+        // The new water goes on to place 2, with the GLASS, so that the second PAN may come ahead of it: 28, 24 and 24.
+        due("a NEW place itself, too: where(2)", with("t30010120;" + GLASS + "t30010501;o01;n1;").where(2), 1);
         due("NEW places stay", with(PAN + GLASS + QUICK + "o01;n1;").place(1, 1), 1);
     }
 
@@ -845,6 +852,7 @@ public final class EdgeTests {
         due("no ORDER: third()", with(QUICK).third(), 0);
         due("one: third()", with("t00010304;o0;").third(), 7);
         due("both begin at 0: third()", with("t00010501;t00010501;o01;").third(), 7);
+        due("both begin at 0: third()", with("t00010500;t00010500;o01;").third(), 5);
         due("the one who is free first: third()", with("t00011001;t00010301;t00010301;t00010501;o0123;").third(), 14);
         due("her hand is one: third()", with("t00010120;t00010120;o01;").third(), 41);
         due("in the ORDER: third()", with("t00012001;t00010101;o01;").third(), 22);
@@ -1063,6 +1071,11 @@ public final class EdgeTests {
         due("restore() refused", none.restore(), -3);
         due("leaves it: undo()", none.undo(), 0);
         due("what was undone is no more: undo()", none.undo(), -3);
+        none.put(0);
+        due("one: clear()", none.clear(), 1);
+        due("clear() of one undone: undo()", none.undo(), 1);
+        due("count(1)", none.count(1), 1);
+        due("undo()", none.undo(), 0);
         due("clear() of none changed nothing: clear()", none.clear(), 0);
         due("undo()", none.undo(), -3);
     }
@@ -1159,6 +1172,9 @@ public final class EdgeTests {
         // Washed in 29 if begun at 0, in 23 at 60, and in 22 at 70, which is too late.
         due("60: later(0)", with("t59012001;o0;").later(0), 60);
         due("60: later(1)", with("t59012001;o0;").later(1), 24);
+        // Begun at 61 the soaked one were begun at 70, and washed in 22.
+        due("61 is too late: later(0)", with("t00010900;t59012001;o01;").later(0), 51);
+        due("61 is too late: later(1)", with("t00010900;t59012001;o01;").later(1), 33);
         due("of several the first: later(0)", with("t50010601;o0;").later(0), 50);
         due("1 at least: later(1)", with("t50010601;o0;").later(1), 2);
         due("soaked till it is begun: later(0)", with("t00010500;t50010201;o01;").later(0), 5);
@@ -1182,6 +1198,8 @@ public final class EdgeTests {
         due("a RACK is cheaper: dear(23, 1, 99)", x.dear(23, 1, 99), 11);
         due("a CLOTH is cheaper: dear(23, 99, 1)", x.dear(23, 99, 1), 2);
         due("as cheap, the least: dear(23, 1, 1)", x.dear(23, 1, 1), 2);
+        due("1 more for a RACK: dear(23, 5, 4)", x.dear(23, 5, 4), 2);
+        due("1 more for a CLOTH: dear(23, 4, 5)", x.dear(23, 4, 5), 11);
         due("neither is needed: dear(42, 99, 99)", x.dear(42, 99, 99), 1);
         due("settings stay: count(20)", x.count(20), 5);
         due("settings stay: count(23)", x.count(23), 3);

@@ -42,6 +42,9 @@ public final class RefusalTests {
             }
         }
         faultsChangeNothing();
+        for (int scene = 0; scene < SCENES; scene++) {
+            asked(scene, calls);
+        }
         lookForUnseen();
         System.out.println(wrong == 0 ? "what is refused, and what asks, changes nothing" : wrong + " calls changed what they must not");
         if (wrong != 0) {
@@ -91,6 +94,36 @@ public final class RefusalTests {
         wrong++;
         if (wrong <= 30) {
             System.out.println(text);
+        }
+    }
+
+    /** Whatever was asked ahead of it, each answer is as that of an object asked nothing else. */
+    private static void asked(int scene, List<Method> calls) throws ReflectiveOperationException {
+        List<Method> asks = new ArrayList<>();
+        List<Object[]> given = new ArrayList<>();
+        for (Method call : calls) {
+            int numbers = call.getParameterCount();
+            for (int first = 0; first < (CHANGING.contains(call.getName()) ? 0 : numbers == 0 ? 1 : 4); first++) {
+                Object[] all = {first, 1 + first % 2, 0};
+                if (numbers > 1) {
+                    all[numbers - 1] = first % 2;
+                }
+                asks.add(call);
+                given.add(Arrays.copyOf(all, numbers));
+            }
+        }
+        WashAndDry x = scene(scene);
+        for (int i = 0; i < 2 * asks.size(); i++) {
+            int at = i < asks.size() ? i : 2 * asks.size() - 1 - i;
+            int answer = (Integer) asks.get(at).invoke(x, given.get(at));
+            int due = (Integer) asks.get(at).invoke(scene(scene), given.get(at));
+            if (answer != due && !asks.get(at).getName().equals("count")) {
+                fault("scene " + scene + ": " + asks.get(at).getName() + Arrays.toString(given.get(at)) + " answered " + answer
+                        + " behind other asking, due is " + due);
+            }
+        }
+        if (made + 2 * asks.size() > MOST_CALLS) {
+            fault("scene " + scene + " takes " + made + " calls and " + 2 * asks.size());
         }
     }
 
