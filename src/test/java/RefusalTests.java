@@ -25,7 +25,7 @@ public final class RefusalTests {
     private static final int[] EDGES = {Integer.MIN_VALUE, -11, -10, -1, 0, 1, 2, 3, 5, 6, 8, 9, 10, 11, 13, 20, 21, 61, 63, 64, 99, 100, 127,
         128, 255, 256, 999, 1000, Integer.MAX_VALUE};
     private static final int[] FEW = {Integer.MIN_VALUE, -11, -1, 0, 2, 11, 99, 100, 256, 1000, Integer.MAX_VALUE};
-    private static final int SCENES = 6;
+    private static final int SCENES = 7;
     private static final int MOST_CALLS = 512;
 
     private static int wrong = 0;
@@ -179,6 +179,9 @@ public final class RefusalTests {
                 x.take();
                 x.clear();
                 made += 3;
+                break;
+            case 6:
+                row(x, 5, 4, 3, 2, 1, 0, 99);
                 break;
             default:
                 break;
