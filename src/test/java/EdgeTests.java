@@ -797,6 +797,7 @@ public final class EdgeTests {
         due("no ORDER: changed()", with(QUICK).changed(), -9);
         due("one: changed()", with(QUICK + "o0;").changed(), -9);
         due("as soon, not less: changed()", with(QUICK.repeat(2) + "o01;").changed(), -9);
+        due("as soon the other way about: changed()", with(QUICK + "t00012020;o10;").changed(), -9);
         due("places 0 and 1: changed()", with(SHORT_LONG + "o10;").changed(), 1);
         due("of several the first: changed()", with("t00011001;t00010110;t00010110;o012;").changed(), 1);
         // Only 6 and 7 may be changed, or 0 with one of them: then a pan comes behind the grease.
